@@ -8,6 +8,8 @@ public final class OutOrder {
     private static final int FEW = 12;
     private static final int GREATEST_PRIME = 32749;
     private static final int NONE = -9;
+    /** Above all that is counted in a net. */
+    private static final int BEYOND = MOST * MOST;
 
     private static final int NOBODY = -1;
     private static final int OTHER = -2;
@@ -174,7 +176,7 @@ public final class OutOrder {
             return refuse(OUT);
         }
         int added = state.net.missing(u);
-        state.remove(u);
+        state.sendOut(u);
         return added;
     }
 
@@ -547,7 +549,7 @@ public final class OutOrder {
 
         private int cheapest(int rule, int among) {
             int best = 0;
-            int least = Integer.MAX_VALUE;
+            int least = BEYOND;
             for (int u = 0; u < net.n; u++) {
                 if ((among >> u & 1) == 1 && cost(rule, u) < least) {
                     best = u;
@@ -627,8 +629,8 @@ public final class OutOrder {
         }
 
         private void weigh(int out, int n) {
-            int sum = Integer.MAX_VALUE;
-            int width = Integer.MAX_VALUE;
+            int sum = BEYOND;
+            int width = BEYOND;
             for (int u = 0; u < n; u++) {
                 if ((out >> u & 1) == 0) {
                     int behind = Integer.bitCount(nets[0][u]);
@@ -827,7 +829,7 @@ public final class OutOrder {
             count = 0;
         }
 
-        void remove(int u) {
+        void sendOut(int u) {
             if (count < gone.length) {
                 gone[count] = u;
                 count++;

@@ -25,7 +25,7 @@ public final class FaceTest {
     private static final String[] FORBIDDEN = {
         "\\bthrow\\b", "\\btry\\b", "\\bcatch\\b", "\\bsynchronized\\b", "\\bassert\\b", "\\bimport\\b",
         "\\bpackage\\b", "->", "::", "\\bThrowable\\b", "Exact\\b", "\\bRandom\\b", "\\bThread\\b",
-        "\\bSystem\\.(?!arraycopy)", "\\bprotected\\b", "\\bstatic\\s*\\{",
+        "\\bSystem\\.(?!arraycopy)", "\\b(Integer|Math)\\.[A-Z]", "\\bprotected\\b", "\\bstatic\\s*\\{",
     };
 
     private final Checks checks = new Checks();
