@@ -19,6 +19,14 @@ final class Checks {
         due(what, got ? 1 : 0, want ? 1 : 0);
     }
 
+    void failed(String what) {
+        due(what, 0, 1);
+    }
+
+    int count() {
+        return passed + failed;
+    }
+
     boolean allPassed() {
         return failed == 0;
     }

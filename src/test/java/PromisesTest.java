@@ -1,16 +1,5 @@
-import java.util.ArrayList;
-import java.util.List;
-
 /** Promise by promise: ordinary calls, the edges that the document names, and wrong calls. */
 public final class PromisesTest {
-    private interface Setup {
-        void on(OutOrder x);
-    }
-
-    private interface Call {
-        int on(OutOrder x);
-    }
-
     private static final int LOW = Integer.MIN_VALUE;
     private static final int HIGH = Integer.MAX_VALUE;
 
@@ -70,154 +59,23 @@ public final class PromisesTest {
         }
     }
 
-    private static int[] refusals(OutOrder x) {
-        int[] counts = new int[7];
-        for (int k = 1; k <= 6; k++) {
-            counts[k] = x.status(10 + k);
-        }
-        return counts;
+    private void refused(String what, Tables.Setup setup, int want, Twin.Call wrong) {
+        Twin.refused(checks, promise + ": " + what, setup, want, wrong);
     }
 
-    /** A twin that is not asked the wrong thing must answer everything else alike. */
-    private void refused(String what, Setup setup, int want, Call wrong) {
-        OutOrder x = new OutOrder();
-        OutOrder twin = new OutOrder();
-        setup.on(x);
-        setup.on(twin);
-        due(what, wrong.on(x), want);
-        int[] counts = refusals(x);
-        int[] before = refusals(twin);
-        for (int k = 1; k <= 6; k++) {
-            due(what + ", then refusals " + -k, counts[k], before[k] + (k == -want ? 1 : 0));
-        }
-        List<Integer> seen = look(x);
-        List<Integer> twins = look(twin);
-        due(what + ", then as many answers", seen.size(), twins.size());
-        for (int i = 0; i < Math.min(seen.size(), twins.size()); i++) {
-            due(what + ", then look " + i, seen.get(i), twins.get(i));
-        }
+    private interface Asked {
+        int on(OutOrder x, int u);
     }
 
-    /** All that can be told of the state; what changes it comes last. */
-    private static List<Integer> look(OutOrder x) {
-        List<Integer> seen = new ArrayList<>();
-        for (int what = 0; what <= 7; what++) {
-            seen.add(x.status(what));
-        }
-        int n = x.status(0);
-        seen.add(x.fills());
-        seen.add(x.fill(0));
-        seen.add(x.width());
-        seen.add(x.group(0));
-        seen.add(x.ring());
-        for (int u = 0; u < n; u++) {
-            seen.add(x.number(u, 0));
-            seen.add(x.at(u));
-            seen.add(x.column(u, 3));
-            seen.add(x.going(u, 0));
-            seen.add(x.going(u, 2));
-            seen.add(x.pivot(u));
-            seen.add(x.one(u, 0));
-            seen.add(x.solve(u));
-            seen.add(x.round(2, u));
-        }
-        for (int u = 0; u < n; u++) {
-            seen.add(x.back());
-            seen.add(x.side(u, 0));
-            seen.add(x.hold(u, true) ? 1 : 0);
-        }
-        return seen;
-    }
-
-    private void nobody(Setup setup, String name, java.util.function.IntUnaryOperator count, TwoWay call) {
-        OutOrder x = new OutOrder();
-        setup.on(x);
-        int n = count.applyAsInt(x.status(0));
+    private void nobody(Tables.Setup setup, String name, Asked call) {
+        int n = with(setup).status(0);
         for (int wrong : new int[] {-1, n, n + 1, LOW, HIGH, 24, 32}) {
             refused(name + " of " + wrong, setup, -1, y -> call.on(y, wrong));
         }
     }
 
-    private interface TwoWay {
-        int on(OutOrder x, int u);
-    }
-
-    private void nobody(Setup setup, String name, TwoWay call) {
-        nobody(setup, name, n -> n, call);
-    }
-
-    // ---- tables
-
-    private static OutOrder with(Setup setup) {
-        OutOrder x = new OutOrder();
-        setup.on(x);
-        return x;
-    }
-
-    private static void ringOf(OutOrder x, int n, int p) {
-        x.table(n, p);
-        for (int u = 0; u < n; u++) {
-            x.put(u, (u + 1) % n, 1);
-        }
-    }
-
-    private static void starOf(OutOrder x, int n, int p) {
-        x.table(n, p);
-        for (int u = 1; u < n; u++) {
-            x.put(0, u, 1);
-        }
-    }
-
-    private static void fullOf(OutOrder x, int n, int p) {
-        x.table(n, p);
-        for (int u = 0; u < n; u++) {
-            for (int w = u + 1; w < n; w++) {
-                x.put(u, w, 1);
-            }
-        }
-    }
-
-    /** A ring of six with 0 and 3 JOINED. */
-    private static void six(OutOrder x) {
-        ringOf(x, 6, 101);
-        x.put(0, 3, 1);
-    }
-
-    /** Something of everything: HELD, OUT, WORKED, right sides, an ORDER of its own. */
-    private static void rich(OutOrder x) {
-        six(x);
-        for (int u = 0; u < 6; u++) {
-            x.put(u, u, 3 + u);
-            x.side(u, 7 * u + 1);
-        }
-        x.hold(5, true);
-        x.order(1);
-        x.swap(1, 4);
-        x.work();
-        x.out(2);
-        x.out(0);
-    }
-
-    /** STUCK at UNKNOWN 1. */
-    private static void stuck(OutOrder x) {
-        square(x, 7, 1, 1, 1, 1, 1, 0, 1, 0, 1);
-        x.work();
-    }
-
-    /** All numbers of the TABLE, row by row. */
-    private static void square(OutOrder x, int p, int... numbers) {
-        int n = 1;
-        while (n * n < numbers.length) {
-            n++;
-        }
-        x.table(n, p);
-        for (int i = 0; i < numbers.length; i++) {
-            x.put(i / n, i % n, numbers[i]);
-        }
-    }
-
-    private static void two(OutOrder x) {
-        square(x, 7, 1, 2, 2, 3);
+    private static OutOrder with(Tables.Setup setup) {
+        return Tables.with(setup);
     }
 
     // ---- promise by promise
@@ -247,7 +105,7 @@ public final class PromisesTest {
             due("status(0)", x.status(0), fine[0]);
             due("status(1)", x.status(1), fine[1]);
         }
-        OutOrder x = with(PromisesTest::rich);
+        OutOrder x = with(Tables::rich);
         x.at(6);
         due("table(6, 5)", x.table(6, 5), 1);
         int[] fresh = {6, 5, 0, 0, 0, 0, -9, 0};
@@ -263,7 +121,7 @@ public final class PromisesTest {
         }
         due("pivot then", x.pivot(0), -5);
         due("back then", x.back(), -9);
-        OutOrder y = with(PromisesTest::stuck);
+        OutOrder y = with(Tables::stuck);
         y.table(3, 7);
         due("no longer STUCK", y.status(6), -9);
         y.put(0, 1, 1);
@@ -281,7 +139,7 @@ public final class PromisesTest {
             {5, 4, -2}, {5, 9, -2}, {1, 32748, -2}, {24, 32743, -2}, {5, 32041, -2}, {5, 6, -2}, {5, 25, -2},
         };
         for (int[] w : wrong) {
-            refused("table(" + w[0] + ", " + w[1] + ")", PromisesTest::rich, w[2], x -> x.table(w[0], w[1]));
+            refused("table(" + w[0] + ", " + w[1] + ")", Tables::rich, w[2], x -> x.table(w[0], w[1]));
         }
     }
 
@@ -300,14 +158,14 @@ public final class PromisesTest {
         due("put(0, 23, 1)", x.put(0, 23, 1), 0);
         due("JOINED", x.status(2), 1);
         due("number(23, 0)", x.number(23, 0), 1);
-        OutOrder y = with(PromisesTest::rich);
+        OutOrder y = with(Tables::rich);
         due("put of the same", y.put(0, 3, 1), 1);
         due("nothing is WORKED then", y.status(5), 0);
         due("GOING begins then", y.status(4), 0);
         due("HELD stays", y.status(3), 1);
         due("the ORDER stays", y.at(5), 5);
         due("the right side stays", y.side(1, 0), 8);
-        OutOrder z = with(PromisesTest::stuck);
+        OutOrder z = with(Tables::stuck);
         z.put(0, 0, 1);
         due("nobody is STUCK then", z.status(6), -9);
         due("fills before", z.fills(), 1);
@@ -316,8 +174,8 @@ public final class PromisesTest {
         z.put(0, 1, 0);
         due("order by new numbers", z.order(6), 1);
         due("going by new numbers", z.going(0, 2), 4);
-        nobody(PromisesTest::rich, "put(u, ..)", (o, u) -> o.put(u, 0, 1));
-        nobody(PromisesTest::rich, "put(.., u)", (o, u) -> o.put(5, u, 1));
+        nobody(Tables::rich, "put(u, ..)", (o, u) -> o.put(u, 0, 1));
+        nobody(Tables::rich, "put(.., u)", (o, u) -> o.put(5, u, 1));
     }
 
     private void number() {
@@ -332,8 +190,8 @@ public final class PromisesTest {
         due("number(23, 23)", x.number(23, 23), 5);
         due("number(0, 0)", x.number(0, 0), 32748);
         due("number(1, 2)", x.number(1, 2), 0);
-        nobody(PromisesTest::rich, "number(u, ..)", (o, u) -> o.number(u, 0));
-        nobody(PromisesTest::rich, "number(.., u)", (o, u) -> o.number(5, u));
+        nobody(Tables::rich, "number(u, ..)", (o, u) -> o.number(u, 0));
+        nobody(Tables::rich, "number(.., u)", (o, u) -> o.number(5, u));
     }
 
     private void hold() {
@@ -355,7 +213,7 @@ public final class PromisesTest {
         }
         due("HELD at last", x.status(3), 1);
         due("no REFUSAL", x.status(11), 0);
-        OutOrder y = with(PromisesTest::rich);
+        OutOrder y = with(Tables::rich);
         y.hold(1, true);
         due("WORK stays", y.status(5), 6);
         due("GOING stays", y.status(4), 2);
@@ -380,14 +238,14 @@ public final class PromisesTest {
         starOrders();
         cliqueAndRingOrders();
         searchOrders();
-        OutOrder y = with(PromisesTest::rich);
+        OutOrder y = with(Tables::rich);
         due("order(0) of rich", y.order(0), 4);
         due("nothing is WORKED then", y.status(5), 0);
         due("GOING stays", y.status(4), 2);
-        OutOrder z = with(PromisesTest::stuck);
+        OutOrder z = with(Tables::stuck);
         z.order(6);
         due("nobody is STUCK then", z.status(6), -9);
-        OutOrder big = with(o -> ringOf(o, 24, 2));
+        OutOrder big = with(o -> Tables.ringOf(o, 24, 2));
         due("order(6), 24", big.order(6), 21);
         due("at(0)", big.at(0), 23);
         due("order(2), 24", big.order(2), 21);
@@ -396,7 +254,7 @@ public final class PromisesTest {
     }
 
     private void starOrders() {
-        OutOrder x = with(o -> starOf(o, 5, 3));
+        OutOrder x = with(o -> Tables.starOf(o, 5, 3));
         due("order(0) of a star", x.order(0), 6);
         due("order(1) of a star", x.order(1), 0);
         rowIs(x, 1, 2, 3, 0, 4);
@@ -426,7 +284,7 @@ public final class PromisesTest {
     }
 
     private void searchOrders() {
-        OutOrder x = with(PromisesTest::six);
+        OutOrder x = with(Tables::six);
         due("order(3) of six", x.order(3), 2);
         rowIs(x, 5, 4, 3, 2, 1, 0);
         x.table(4, 7);
@@ -447,22 +305,22 @@ public final class PromisesTest {
 
     private void orderRefusals() {
         for (int wrong : new int[] {-1, 7, 8, LOW, HIGH}) {
-            refused("order(" + wrong + ")", PromisesTest::rich, -2, x -> x.order(wrong));
+            refused("order(" + wrong + ")", Tables::rich, -2, x -> x.order(wrong));
         }
-        Setup thirteen = o -> ringOf(o, 13, 2);
-        Setup thirteenHeld = o -> {
-            ringOf(o, 13, 2);
+        Tables.Setup thirteen = o -> Tables.ringOf(o, 13, 2);
+        Tables.Setup thirteenHeld = o -> {
+            Tables.ringOf(o, 13, 2);
             o.hold(12, true);
         };
         for (int rule = 3; rule <= 5; rule++) {
             int r = rule;
-            refused("order(" + r + "), one HELD", PromisesTest::rich, -5, x -> x.order(r));
+            refused("order(" + r + "), one HELD", Tables::rich, -5, x -> x.order(r));
             refused("order(" + r + "), 13 and one HELD", thirteenHeld, -5, x -> x.order(r));
         }
         refused("order(7), 13 and one HELD", thirteenHeld, -2, x -> x.order(7));
         refused("order(4), 13", thirteen, -6, x -> x.order(4));
         refused("order(5), 13", thirteen, -6, x -> x.order(5));
-        refused("order(5), 24", o -> ringOf(o, 24, 2), -6, x -> x.order(5));
+        refused("order(5), 24", o -> Tables.ringOf(o, 24, 2), -6, x -> x.order(5));
         for (int rule : new int[] {0, 1, 2, 6}) {
             due("order(" + rule + "), 13 and one HELD", with(thirteenHeld).order(rule), 10);
         }
@@ -471,7 +329,7 @@ public final class PromisesTest {
 
     private void leastOrders() {
         promise = "6 order, RULES 4 and 5";
-        OutOrder x = with(o -> ringOf(o, 12, 32749));
+        OutOrder x = with(o -> Tables.ringOf(o, 12, 32749));
         due("order(4), 12", x.order(4), 9);
         rowIs(x, 0, 1, 2, 3, 4, 5, 6, 7, 8, 9, 10, 11);
         x.order(6);
@@ -492,7 +350,7 @@ public final class PromisesTest {
         x.put(4, 5, 0);
         due("order(4) by numbers now", x.order(4), 0);
         rowIs(x, 0, 1, 2, 3, 4, 5, 6);
-        OutOrder star = with(o -> starOf(o, 12, 2));
+        OutOrder star = with(o -> Tables.starOf(o, 12, 2));
         due("order(4) of a star", star.order(4), 0);
         rowIs(star, 1, 2, 3, 4, 5, 6, 7, 8, 9, 10, 0, 11);
         due("order(5) of a star", star.order(5), 0);
@@ -511,16 +369,16 @@ public final class PromisesTest {
         rowIs(x, 1, 23, 2);
         due("swap(2, 2)", x.swap(2, 2), 1);
         rowIs(x, 1, 23, 2);
-        OutOrder y = with(PromisesTest::rich);
+        OutOrder y = with(Tables::rich);
         due("swap of one with itself", y.swap(0, 0), 1);
         due("nothing is WORKED then", y.status(5), 0);
         due("GOING stays", y.status(4), 2);
-        OutOrder z = with(PromisesTest::six);
+        OutOrder z = with(Tables::six);
         due("fills before", z.fills(), 4);
         z.swap(5, 0);
         due("fills after", z.fills(), 2);
-        nobody(PromisesTest::rich, "swap(i, ..)", (o, i) -> o.swap(i, 0));
-        nobody(PromisesTest::rich, "swap(.., i)", (o, i) -> o.swap(5, i));
+        nobody(Tables::rich, "swap(i, ..)", (o, i) -> o.swap(i, 0));
+        nobody(Tables::rich, "swap(.., i)", (o, i) -> o.swap(5, i));
     }
 
     private void at() {
@@ -532,17 +390,17 @@ public final class PromisesTest {
         for (int i = 0; i < 24; i++) {
             due("at(" + i + ")", x.at(i), 23 - i);
         }
-        nobody(PromisesTest::rich, "at", OutOrder::at);
+        nobody(Tables::rich, "at", OutOrder::at);
     }
 
     private void fills() {
         promise = "9 fills";
         due("of one", new OutOrder().fills(), 0);
-        due("of six", with(PromisesTest::six).fills(), 4);
-        due("of a star of 24", with(o -> starOf(o, 24, 2)).fills(), 253);
-        due("of all JOINED", with(o -> fullOf(o, 24, 2)).fills(), 0);
-        due("of a ring of 4", with(o -> ringOf(o, 4, 3)).fills(), 1);
-        OutOrder x = with(o -> starOf(o, 5, 2));
+        due("of six", with(Tables::six).fills(), 4);
+        due("of a star of 24", with(o -> Tables.starOf(o, 24, 2)).fills(), 253);
+        due("of all JOINED", with(o -> Tables.fullOf(o, 24, 2)).fills(), 0);
+        due("of a ring of 4", with(o -> Tables.ringOf(o, 4, 3)).fills(), 1);
+        OutOrder x = with(o -> Tables.starOf(o, 5, 2));
         x.hold(0, true);
         x.out(1);
         due("HELD and OUT do not matter", x.fills(), 6);
@@ -552,7 +410,7 @@ public final class PromisesTest {
 
     private void fill() {
         promise = "10 fill";
-        OutOrder x = with(PromisesTest::six);
+        OutOrder x = with(Tables::six);
         int[] due = {35, 37, 101, 69};
         for (int i = 0; i < due.length; i++) {
             due("fill(" + i + ")", x.fill(i), due[i]);
@@ -567,13 +425,13 @@ public final class PromisesTest {
         due("fill(0) of another ORDER", x.fill(0), 4);
         due("fill(1) of another ORDER", x.fill(1), 2);
         due("fill(2) of another ORDER", x.fill(2), -9);
-        OutOrder star = with(o -> starOf(o, 24, 2));
+        OutOrder star = with(o -> Tables.starOf(o, 24, 2));
         due("the first of 253", star.fill(0), 34);
         due("fill(21)", star.fill(21), 55);
         due("fill(22)", star.fill(22), 67);
         due("the last of 253", star.fill(252), 727);
         due("none after it", star.fill(253), -9);
-        OutOrder ring = with(o -> ringOf(o, 24, 2));
+        OutOrder ring = with(o -> Tables.ringOf(o, 24, 2));
         due("ring, the first", ring.fill(0), 55);
         due("ring, the last", ring.fill(20), 695);
         due("of one", new OutOrder().fill(0), -9);
@@ -581,7 +439,7 @@ public final class PromisesTest {
 
     private void column() {
         promise = "11 column";
-        OutOrder x = with(PromisesTest::six);
+        OutOrder x = with(Tables::six);
         x.swap(0, 5);
         int[][] due = {
             {5, 0, -9, 0, 0, 1}, {1, 2, 2, 5, 4, 0}, {2, 2, 3, 9, 3, 1},
@@ -596,7 +454,7 @@ public final class PromisesTest {
             due("column(0, " + wrong + ")", x.column(0, wrong), -9);
         }
         due("no REFUSAL", x.status(11), 0);
-        OutOrder star = with(o -> starOf(o, 24, 2));
+        OutOrder star = with(o -> Tables.starOf(o, 24, 2));
         due("BEHIND the first of 24", star.column(0, 3), 16777214);
         due("how many", star.column(0, 1), 23);
         due("HEIGHT", star.column(0, 4), 23);
@@ -604,22 +462,22 @@ public final class PromisesTest {
         star.swap(0, 23);
         due("how many have the last as PARENT", star.column(0, 5), 23);
         due("PARENT", star.column(23, 2), 0);
-        nobody(PromisesTest::rich, "column", (o, u) -> o.column(u, 0));
-        nobody(PromisesTest::rich, "column, another what", (o, u) -> o.column(u, 6));
+        nobody(Tables::rich, "column", (o, u) -> o.column(u, 0));
+        nobody(Tables::rich, "column, another what", (o, u) -> o.column(u, 6));
     }
 
     private void width() {
         promise = "12 width";
         due("of one", new OutOrder().width(), 0);
-        due("of six", with(PromisesTest::six).width(), 3);
-        OutOrder star = with(o -> starOf(o, 24, 2));
+        due("of six", with(Tables::six).width(), 3);
+        OutOrder star = with(o -> Tables.starOf(o, 24, 2));
         due("of a star", star.width(), 23);
         star.swap(0, 23);
         due("of a star, the middle last", star.width(), 1);
         star.put(1, 2, 1);
         due("by numbers now", star.width(), 2);
         due("of none JOINED", with(o -> o.table(24, 2)).width(), 0);
-        due("of a ring", with(o -> ringOf(o, 24, 2)).width(), 2);
+        due("of a ring", with(o -> Tables.ringOf(o, 24, 2)).width(), 2);
     }
 
     private void groupsAre(OutOrder x, int... bits) {
@@ -635,11 +493,11 @@ public final class PromisesTest {
     private void group() {
         promise = "13 group";
         groupsAre(new OutOrder(), 1);
-        OutOrder x = with(PromisesTest::six);
+        OutOrder x = with(Tables::six);
         groupsAre(x, 43, 46, 56);
         x.swap(0, 5);
         groupsAre(x, 7, 13, 25, 49);
-        groupsAre(with(o -> starOf(o, 24, 2)), 16777215);
+        groupsAre(with(o -> Tables.starOf(o, 24, 2)), 16777215);
         OutOrder alone = with(o -> o.table(24, 2));
         for (int u = 0; u < 24; u++) {
             due("group(" + u + "), none JOINED", alone.group(u), 1 << u);
@@ -655,18 +513,18 @@ public final class PromisesTest {
     private void isClean() {
         promise = "14 isClean";
         due("of one", new OutOrder().isClean(), true);
-        due("of six", with(PromisesTest::six).isClean(), false);
-        due("of a ring of 3", with(o -> ringOf(o, 3, 2)).isClean(), true);
-        due("of a ring of 4", with(o -> ringOf(o, 4, 2)).isClean(), false);
-        due("of a ring of 24", with(o -> ringOf(o, 24, 2)).isClean(), false);
-        due("of all JOINED", with(o -> fullOf(o, 24, 2)).isClean(), true);
-        OutOrder star = with(o -> starOf(o, 24, 2));
+        due("of six", with(Tables::six).isClean(), false);
+        due("of a ring of 3", with(o -> Tables.ringOf(o, 3, 2)).isClean(), true);
+        due("of a ring of 4", with(o -> Tables.ringOf(o, 4, 2)).isClean(), false);
+        due("of a ring of 24", with(o -> Tables.ringOf(o, 24, 2)).isClean(), false);
+        due("of all JOINED", with(o -> Tables.fullOf(o, 24, 2)).isClean(), true);
+        OutOrder star = with(o -> Tables.starOf(o, 24, 2));
         due("of a star, whose ORDER is not CLEAN", star.isClean(), true);
         for (int u = 0; u < 24; u++) {
             star.hold(u, u == 0);
         }
         due("the middle HELD", star.isClean(), true);
-        OutOrder x = with(o -> ringOf(o, 5, 3));
+        OutOrder x = with(o -> Tables.ringOf(o, 5, 3));
         x.put(0, 2, 1);
         due("a ring of 5 with one across", x.isClean(), false);
         x.put(0, 3, 1);
@@ -678,21 +536,21 @@ public final class PromisesTest {
     private void ring() {
         promise = "15 ring";
         due("of one", new OutOrder().ring(), 0);
-        due("of all JOINED", with(o -> fullOf(o, 24, 2)).ring(), 0);
-        due("of a star", with(o -> starOf(o, 24, 2)).ring(), 0);
-        due("of a ring of 3", with(o -> ringOf(o, 3, 2)).ring(), 0);
+        due("of all JOINED", with(o -> Tables.fullOf(o, 24, 2)).ring(), 0);
+        due("of a star", with(o -> Tables.starOf(o, 24, 2)).ring(), 0);
+        due("of a ring of 3", with(o -> Tables.ringOf(o, 3, 2)).ring(), 0);
         for (int n = 4; n <= 24; n++) {
             int m = n;
-            due("of a ring of " + n, with(o -> ringOf(o, m, 2)).ring(), n);
+            due("of a ring of " + n, with(o -> Tables.ringOf(o, m, 2)).ring(), n);
         }
-        OutOrder x = with(o -> ringOf(o, 24, 2));
+        OutOrder x = with(o -> Tables.ringOf(o, 24, 2));
         x.put(0, 2, 1);
         due("one cut off", x.ring(), 23);
         x.put(2, 21, 1);
         due("in two", x.ring(), 5);
         x.put(5, 8, 1);
         due("a small one", x.ring(), 4);
-        OutOrder wheel = with(o -> ringOf(o, 6, 2));
+        OutOrder wheel = with(o -> Tables.ringOf(o, 6, 2));
         wheel.put(4, 5, 0);
         wheel.put(0, 5, 0);
         wheel.put(0, 4, 1);
@@ -708,15 +566,15 @@ public final class PromisesTest {
         promise = "16 least";
         due("FILLS of one", new OutOrder().least(0), 0);
         due("WIDTH of one", new OutOrder().least(1), 0);
-        OutOrder x = with(PromisesTest::six);
+        OutOrder x = with(Tables::six);
         due("FILLS of six", x.least(0), 2);
         due("WIDTH of six", x.least(1), 2);
-        OutOrder ring = with(o -> ringOf(o, 12, 2));
+        OutOrder ring = with(o -> Tables.ringOf(o, 12, 2));
         due("FILLS of a ring of 12", ring.least(0), 9);
         due("WIDTH of a ring of 12", ring.least(1), 2);
-        due("WIDTH of 12, all JOINED", with(o -> fullOf(o, 12, 2)).least(1), 11);
-        due("FILLS of 12, all JOINED", with(o -> fullOf(o, 12, 2)).least(0), 0);
-        OutOrder star = with(o -> starOf(o, 12, 2));
+        due("WIDTH of 12, all JOINED", with(o -> Tables.fullOf(o, 12, 2)).least(1), 11);
+        due("FILLS of 12, all JOINED", with(o -> Tables.fullOf(o, 12, 2)).least(0), 0);
+        OutOrder star = with(o -> Tables.starOf(o, 12, 2));
         for (int u = 1; u < 12; u++) {
             star.hold(u, true);
         }
@@ -733,29 +591,29 @@ public final class PromisesTest {
         star.put(4, 1, 1);
         due("FILLS by numbers now", star.least(0), 1);
         for (int wrong : new int[] {-1, 2, 3, LOW, HIGH}) {
-            refused("least(" + wrong + ")", PromisesTest::rich, -2, o -> o.least(wrong));
-            refused("least(" + wrong + "), 13", o -> ringOf(o, 13, 2), -2, o -> o.least(wrong));
+            refused("least(" + wrong + ")", Tables::rich, -2, o -> o.least(wrong));
+            refused("least(" + wrong + "), 13", o -> Tables.ringOf(o, 13, 2), -2, o -> o.least(wrong));
         }
-        refused("least(0), 13", o -> ringOf(o, 13, 2), -6, o -> o.least(0));
-        refused("least(1), 24", o -> ringOf(o, 24, 2), -6, o -> o.least(1));
+        refused("least(0), 13", o -> Tables.ringOf(o, 13, 2), -6, o -> o.least(0));
+        refused("least(1), 24", o -> Tables.ringOf(o, 24, 2), -6, o -> o.least(1));
     }
 
     private void begin() {
         promise = "17 begin";
         due("of one", new OutOrder().begin(), 1);
-        OutOrder x = with(PromisesTest::rich);
+        OutOrder x = with(Tables::rich);
         due("begin()", x.begin(), 6);
         due("none is OUT then", x.status(4), 0);
         due("no FILL stays", x.going(1, 2), 5);
         due("back()", x.back(), -9);
         due("WORK stays", x.status(5), 6);
         due("HELD stays", x.status(3), 1);
-        due("of 24", with(o -> starOf(o, 24, 2)).begin(), 24);
+        due("of 24", with(o -> Tables.starOf(o, 24, 2)).begin(), 24);
     }
 
     private void out() {
         promise = "18 out";
-        OutOrder x = with(o -> starOf(o, 24, 2));
+        OutOrder x = with(o -> Tables.starOf(o, 24, 2));
         due("out(0)", x.out(0), 253);
         due("out(23)", x.out(23), 0);
         due("OUT", x.status(4), 2);
@@ -766,19 +624,19 @@ public final class PromisesTest {
         }
         due("all OUT", x.status(4), 24);
         due("out of a new one", new OutOrder().out(0), 0);
-        OutOrder y = with(PromisesTest::six);
+        OutOrder y = with(Tables::six);
         due("out(1)", y.out(1), 1);
         due("out(2), that was JOINED by it", y.out(2), 0);
         y.hold(3, true);
         due("out(3), HELD", y.out(3), 1);
-        nobody(PromisesTest::rich, "out", OutOrder::out);
-        refused("out(2) again", PromisesTest::rich, -3, o -> o.out(2));
-        refused("out(0) again", PromisesTest::rich, -3, o -> o.out(0));
+        nobody(Tables::rich, "out", OutOrder::out);
+        refused("out(2) again", Tables::rich, -3, o -> o.out(2));
+        refused("out(0) again", Tables::rich, -3, o -> o.out(0));
     }
 
     private void going() {
         promise = "19 going";
-        OutOrder x = with(PromisesTest::six);
+        OutOrder x = with(Tables::six);
         due("neighbours of 0", x.going(0, 1), 3);
         due("as bits", x.going(0, 2), 42);
         due("would fill", x.going(0, 3), 3);
@@ -790,13 +648,13 @@ public final class PromisesTest {
             due("going(1, " + wrong + ")", x.going(1, wrong), -9);
         }
         due("no REFUSAL", x.status(11) + x.status(12) + x.status(13), 0);
-        OutOrder star = with(o -> starOf(o, 24, 2));
+        OutOrder star = with(o -> Tables.starOf(o, 24, 2));
         due("as bits, 24", star.going(0, 2), 16777214);
         due("would fill, 24", star.going(0, 3), 253);
         due("the last of 24", star.going(23, 2), 1);
         for (int what : new int[] {-1, 0, 1, 2, 3, 4}) {
-            nobody(PromisesTest::rich, "going, " + what, (o, u) -> o.going(u, what));
-            refused("going(2, " + what + ")", PromisesTest::rich, -3, o -> o.going(2, what));
+            nobody(Tables::rich, "going, " + what, (o, u) -> o.going(u, what));
+            refused("going(2, " + what + ")", Tables::rich, -3, o -> o.going(2, what));
         }
     }
 
@@ -833,7 +691,7 @@ public final class PromisesTest {
     }
 
     private void twinThatIsNotSimple() {
-        OutOrder x = with(o -> ringOf(o, 4, 5));
+        OutOrder x = with(o -> Tables.ringOf(o, 4, 5));
         due("none but UNKNOWN in a ring", x.going(3, 0), 0);
         x.table(4, 5);
         for (int[] pair : new int[][] {{0, 1}, {0, 2}, {0, 3}, {1, 2}, {1, 3}}) {
@@ -849,7 +707,7 @@ public final class PromisesTest {
 
     private void back() {
         promise = "20 back";
-        OutOrder x = with(o -> starOf(o, 24, 2));
+        OutOrder x = with(o -> Tables.starOf(o, 24, 2));
         due("none is OUT", x.back(), -9);
         x.out(5);
         x.out(0);
@@ -872,7 +730,7 @@ public final class PromisesTest {
         for (int u = 23; u >= 0; u--) {
             due("back() of all", x.back(), u);
         }
-        OutOrder y = with(PromisesTest::six);
+        OutOrder y = with(Tables::six);
         y.out(1);
         y.out(0);
         y.back();
@@ -883,11 +741,11 @@ public final class PromisesTest {
         promise = "21 work";
         OutOrder one = new OutOrder();
         due("of one, 0", one.work(), 1);
-        OutOrder x = with(PromisesTest::two);
+        OutOrder x = with(Tables::two);
         due("work()", x.work(), 2);
         due("status(5)", x.status(5), 2);
         due("status(6)", x.status(6), -9);
-        OutOrder y = with(PromisesTest::stuck);
+        OutOrder y = with(Tables::stuck);
         due("STUCK", y.work(), 1);
         due("status(5)", y.status(5), 1);
         due("status(6)", y.status(6), 1);
@@ -897,14 +755,14 @@ public final class PromisesTest {
         y.swap(0, 1);
         due("by a third ORDER", y.work(), 1);
         OutOrder z = new OutOrder();
-        square(z, 7, 0, 0, 0, 0, 2, 0, 0, 0, 3);
+        Tables.square(z, 7, 0, 0, 0, 0, 2, 0, 0, 0, 3);
         due("a PIVOT 0 and no REST", z.work(), 3);
-        square(z, 7, 1, 1, 0, 1, 1, 0, 0, 0, 2);
+        Tables.square(z, 7, 1, 1, 0, 1, 1, 0, 0, 0, 2);
         due("a PIVOT that becomes 0", z.work(), 3);
-        square(z, 7, 0, 1, 1, 0);
+        Tables.square(z, 7, 0, 1, 1, 0);
         due("STUCK at once", z.work(), 0);
         due("the STUCK one", z.status(6), 0);
-        square(z, 2, 1, 1, 1, 0);
+        Tables.square(z, 2, 1, 1, 1, 0);
         due("modulo 2", z.work(), 2);
         OutOrder big = with(o -> o.table(24, 32749));
         due("24 noughts", big.work(), 24);
@@ -914,7 +772,7 @@ public final class PromisesTest {
 
     private void pivot() {
         promise = "22 pivot";
-        OutOrder x = with(PromisesTest::two);
+        OutOrder x = with(Tables::two);
         x.work();
         due("pivot(0)", x.pivot(0), 1);
         due("pivot(1)", x.pivot(1), 6);
@@ -922,35 +780,35 @@ public final class PromisesTest {
         x.work();
         due("pivot(1), first", x.pivot(1), 3);
         due("pivot(0), second", x.pivot(0), 2);
-        OutOrder y = with(PromisesTest::stuck);
+        OutOrder y = with(Tables::stuck);
         due("pivot(0)", y.pivot(0), 1);
         due("pivot of the STUCK one", y.pivot(1), 0);
         OutOrder z = new OutOrder();
-        square(z, 32749, -1, -1, -1, -3);
+        Tables.square(z, 32749, -1, -1, -1, -3);
         z.work();
         due("pivot(0)", z.pivot(0), 32748);
         due("pivot(1)", z.pivot(1), 32747);
         // One whose PIVOT is 0 takes no part in the sums.
-        square(z, 7, 1, 1, 2, 1, 1, 2, 2, 2, 6);
+        Tables.square(z, 7, 1, 1, 2, 1, 1, 2, 2, 2, 6);
         due("work()", z.work(), 3);
         due("pivot(1)", z.pivot(1), 0);
         due("pivot(2)", z.pivot(2), 2);
-        refused("pivot(2), not WORKED", PromisesTest::stuck, -5, o -> o.pivot(2));
-        refused("pivot(0), nothing WORKED", PromisesTest::six, -5, o -> o.pivot(0));
-        nobody(PromisesTest::rich, "pivot", OutOrder::pivot);
-        nobody(PromisesTest::six, "pivot, nothing WORKED", OutOrder::pivot);
+        refused("pivot(2), not WORKED", Tables::stuck, -5, o -> o.pivot(2));
+        refused("pivot(0), nothing WORKED", Tables::six, -5, o -> o.pivot(0));
+        nobody(Tables::rich, "pivot", OutOrder::pivot);
+        nobody(Tables::six, "pivot, nothing WORKED", OutOrder::pivot);
         afterChanges("pivot", o -> o.pivot(0));
     }
 
     /** The answer is -5 when something that undoes the WORK has come. */
-    private void afterChanges(String name, Call call) {
-        Setup[] changes = {
+    private void afterChanges(String name, Twin.Call call) {
+        Tables.Setup[] changes = {
             o -> o.put(1, 1, 3), o -> o.order(0), o -> o.order(6), o -> o.swap(0, 0), o -> o.table(2, 7),
         };
         for (int i = 0; i < changes.length; i++) {
-            Setup change = changes[i];
+            Tables.Setup change = changes[i];
             refused(name + " after change " + i, o -> {
-                two(o);
+                Tables.two(o);
                 o.work();
                 change.on(o);
             }, -5, call);
@@ -959,7 +817,7 @@ public final class PromisesTest {
 
     private void one() {
         promise = "23 one";
-        OutOrder x = with(PromisesTest::two);
+        OutOrder x = with(Tables::two);
         x.work();
         due("one(1, 0)", x.one(1, 0), 2);
         due("one(0, 0)", x.one(0, 0), 1);
@@ -969,11 +827,11 @@ public final class PromisesTest {
         x.work();
         due("one(0, 1), 2 by 3", x.one(0, 1), 3);
         due("one(1, 0), ahead", x.one(1, 0), 0);
-        OutOrder y = with(PromisesTest::stuck);
+        OutOrder y = with(Tables::stuck);
         due("one(2, 0) of one that is not WORKED", y.one(2, 0), 1);
         due("one(1, 0) of the STUCK one", y.one(1, 0), 1);
         OutOrder z = new OutOrder();
-        square(z, 7, 0, 0, 0, 2);
+        Tables.square(z, 7, 0, 0, 0, 2);
         z.work();
         due("0 at a PIVOT 0", z.one(1, 0), 0);
         due("1 at a PIVOT 0 with itself", z.one(0, 0), 1);
@@ -985,31 +843,31 @@ public final class PromisesTest {
         due("one(23, 0)", big.one(23, 0), 16375);
         due("one(0, 23)", big.one(0, 23), 0);
         for (int[] pair : new int[][] {{0, 1}, {1, 1}, {2, 1}, {2, 2}, {0, 2}}) {
-            refused("one(" + pair[0] + ", " + pair[1] + ")", PromisesTest::stuck, -5, o -> o.one(pair[0], pair[1]));
+            refused("one(" + pair[0] + ", " + pair[1] + ")", Tables::stuck, -5, o -> o.one(pair[0], pair[1]));
         }
-        refused("one(0, 0), nothing WORKED", PromisesTest::six, -5, o -> o.one(0, 0));
-        nobody(PromisesTest::rich, "one(u, ..)", (o, u) -> o.one(u, 0));
-        nobody(PromisesTest::rich, "one(.., u)", (o, u) -> o.one(5, u));
-        nobody(PromisesTest::six, "one(u, ..), nothing WORKED", (o, u) -> o.one(u, 0));
-        nobody(PromisesTest::six, "one(.., u), nothing WORKED", (o, u) -> o.one(0, u));
+        refused("one(0, 0), nothing WORKED", Tables::six, -5, o -> o.one(0, 0));
+        nobody(Tables::rich, "one(u, ..)", (o, u) -> o.one(u, 0));
+        nobody(Tables::rich, "one(.., u)", (o, u) -> o.one(5, u));
+        nobody(Tables::six, "one(u, ..), nothing WORKED", (o, u) -> o.one(u, 0));
+        nobody(Tables::six, "one(.., u), nothing WORKED", (o, u) -> o.one(0, u));
         afterChanges("one", o -> o.one(1, 0));
     }
 
     private void worth() {
         promise = "24 worth";
-        OutOrder x = with(PromisesTest::two);
+        OutOrder x = with(Tables::two);
         x.work();
         due("of two", x.worth(), 6);
         x.swap(0, 1);
         x.work();
         due("by another ORDER", x.worth(), 6);
-        square(x, 32749, -1, -1, -1, -3);
+        Tables.square(x, 32749, -1, -1, -1, -3);
         x.work();
         due("modulo 32749", x.worth(), 2);
-        square(x, 7, 1, 1, 1, 1);
+        Tables.square(x, 7, 1, 1, 1, 1);
         x.work();
         due("0 if a PIVOT is", x.worth(), 0);
-        square(x, 2, 1, 1, 1, 0);
+        Tables.square(x, 2, 1, 1, 1, 0);
         x.work();
         due("modulo 2", x.worth(), 1);
         x.table(24, 32749);
@@ -1018,8 +876,8 @@ public final class PromisesTest {
         }
         x.work();
         due("2 to the power 24", x.worth(), 16777216 % 32749);
-        refused("STUCK", PromisesTest::stuck, -5, OutOrder::worth);
-        refused("nothing WORKED", PromisesTest::six, -5, OutOrder::worth);
+        refused("STUCK", Tables::stuck, -5, OutOrder::worth);
+        refused("nothing WORKED", Tables::six, -5, OutOrder::worth);
         afterChanges("worth", OutOrder::worth);
     }
 
@@ -1034,18 +892,18 @@ public final class PromisesTest {
         due("side(23, 7)", x.side(23, 7), 0);
         due("side(23, 4)", x.side(23, 4), 0);
         due("side(23, 0)", x.side(23, 0), 4);
-        OutOrder y = with(PromisesTest::rich);
+        OutOrder y = with(Tables::rich);
         y.side(3, 3);
         due("WORK stays", y.status(5), 6);
         due("GOING stays", y.status(4), 2);
         y.order(0);
         due("by UNKNOWN, not by place", y.side(3, 0), 3);
-        nobody(PromisesTest::rich, "side", (o, u) -> o.side(u, 1));
+        nobody(Tables::rich, "side", (o, u) -> o.side(u, 1));
     }
 
     private void solve() {
         promise = "26 solve";
-        OutOrder x = with(PromisesTest::two);
+        OutOrder x = with(Tables::two);
         x.work();
         due("all right sides 0", x.solve(0), 0);
         x.side(0, 1);
@@ -1059,12 +917,12 @@ public final class PromisesTest {
         x.work();
         due("solve(0), by another ORDER", x.solve(0), 3);
         due("solve(1), by another ORDER", x.solve(1), 6);
-        square(x, 2, 1, 1, 1, 0);
+        Tables.square(x, 2, 1, 1, 1, 0);
         x.side(0, 1);
         x.work();
         due("modulo 2", x.solve(0), 0);
         due("modulo 2", x.solve(1), 1);
-        checkSums(with(PromisesTest::rich), 6, 101);
+        checkSums(with(Tables::rich), 6, 101);
         OutOrder big = new OutOrder();
         big.table(24, 32749);
         for (int u = 0; u < 24; u++) {
@@ -1075,17 +933,12 @@ public final class PromisesTest {
         big.put(0, 0, -3);
         due("work(), 24", big.work(), 24);
         solvesRing(big);
-        refused("STUCK", PromisesTest::stuck, -5, o -> o.solve(0));
-        refused("nothing WORKED", PromisesTest::six, -5, o -> o.solve(0));
-        refused("a PIVOT is 0", PromisesTest::nought, -5, o -> o.solve(0));
-        nobody(PromisesTest::rich, "solve", OutOrder::solve);
-        nobody(PromisesTest::six, "solve, nothing WORKED", OutOrder::solve);
+        refused("STUCK", Tables::stuck, -5, o -> o.solve(0));
+        refused("nothing WORKED", Tables::six, -5, o -> o.solve(0));
+        refused("a PIVOT is 0", Tables::nought, -5, o -> o.solve(0));
+        nobody(Tables::rich, "solve", OutOrder::solve);
+        nobody(Tables::six, "solve, nothing WORKED", OutOrder::solve);
         afterChanges("solve", o -> o.solve(0));
-    }
-
-    private static void nought(OutOrder x) {
-        square(x, 7, 1, 1, 1, 1);
-        x.work();
     }
 
     private void checkSums(OutOrder x, int n, int p) {
@@ -1111,7 +964,7 @@ public final class PromisesTest {
 
     private void inside() {
         promise = "27 inside";
-        OutOrder x = with(PromisesTest::two);
+        OutOrder x = with(Tables::two);
         x.side(0, 5);
         x.work();
         due("inside(0, 0)", x.inside(0, 0), 4);
@@ -1132,19 +985,19 @@ public final class PromisesTest {
         big.work();
         due("inside(0, 23), 24", big.inside(0, 23), 10917);
         due("inside(23, 23), 24", big.inside(23, 23), 10916);
-        refused("STUCK", PromisesTest::stuck, -5, o -> o.inside(0, 0));
-        refused("nothing WORKED", PromisesTest::six, -5, o -> o.inside(0, 0));
-        refused("a PIVOT is 0", PromisesTest::nought, -5, o -> o.inside(0, 0));
-        nobody(PromisesTest::rich, "inside(u, ..)", (o, u) -> o.inside(u, 0));
-        nobody(PromisesTest::rich, "inside(.., u)", (o, u) -> o.inside(5, u));
-        nobody(PromisesTest::six, "inside(u, ..), nothing WORKED", (o, u) -> o.inside(u, 0));
+        refused("STUCK", Tables::stuck, -5, o -> o.inside(0, 0));
+        refused("nothing WORKED", Tables::six, -5, o -> o.inside(0, 0));
+        refused("a PIVOT is 0", Tables::nought, -5, o -> o.inside(0, 0));
+        nobody(Tables::rich, "inside(u, ..)", (o, u) -> o.inside(u, 0));
+        nobody(Tables::rich, "inside(.., u)", (o, u) -> o.inside(5, u));
+        nobody(Tables::six, "inside(u, ..), nothing WORKED", (o, u) -> o.inside(u, 0));
         afterChanges("inside", o -> o.inside(0, 1));
     }
 
     private void plan() {
         promise = "28 plan";
         due("of one", new OutOrder().plan(1), 1);
-        OutOrder x = with(PromisesTest::six);
+        OutOrder x = with(Tables::six);
         x.swap(0, 5);
         due("plan(1)", x.plan(1), 6);
         due("plan(2)", x.plan(2), 5);
@@ -1154,22 +1007,22 @@ public final class PromisesTest {
         for (int[] d : due) {
             due("plan(" + d[0] + "), none JOINED", alone.plan(d[0]), d[1]);
         }
-        OutOrder star = with(o -> starOf(o, 24, 2));
+        OutOrder star = with(o -> Tables.starOf(o, 24, 2));
         due("a row of PARENTS", star.plan(24), 24);
         star.swap(0, 23);
         due("the middle last", star.plan(24), 2);
         due("the middle last, 4 hands", star.plan(4), 7);
         for (int wrong : new int[] {0, -1, LOW}) {
-            refused("plan(" + wrong + ")", PromisesTest::rich, -4, o -> o.plan(wrong));
+            refused("plan(" + wrong + ")", Tables::rich, -4, o -> o.plan(wrong));
         }
         for (int wrong : new int[] {25, 26, HIGH}) {
-            refused("plan(" + wrong + ")", PromisesTest::rich, -6, o -> o.plan(wrong));
+            refused("plan(" + wrong + ")", Tables::rich, -6, o -> o.plan(wrong));
         }
     }
 
     private void round() {
         promise = "29 round";
-        OutOrder x = with(PromisesTest::six);
+        OutOrder x = with(Tables::six);
         x.swap(0, 5);
         int[] alone = {5, 0, 1, 3, 4, 2};
         int[] byTwo = {4, 0, 1, 2, 3, 0};
@@ -1187,19 +1040,19 @@ public final class PromisesTest {
         due("of several the last in the ORDER", y.round(5, 0), 4);
         due("of one", new OutOrder().round(24, 0), 0);
         for (int hands : new int[] {0, 1, 24, 25, LOW, HIGH}) {
-            nobody(PromisesTest::rich, "round(" + hands + ", ..)", (o, u) -> o.round(hands, u));
+            nobody(Tables::rich, "round(" + hands + ", ..)", (o, u) -> o.round(hands, u));
         }
         for (int wrong : new int[] {0, -1, LOW}) {
-            refused("round(" + wrong + ", 5)", PromisesTest::rich, -4, o -> o.round(wrong, 5));
+            refused("round(" + wrong + ", 5)", Tables::rich, -4, o -> o.round(wrong, 5));
         }
         for (int wrong : new int[] {25, 26, HIGH}) {
-            refused("round(" + wrong + ", 0)", PromisesTest::rich, -6, o -> o.round(wrong, 0));
+            refused("round(" + wrong + ", 0)", Tables::rich, -6, o -> o.round(wrong, 0));
         }
     }
 
     private void status() {
         promise = "30 status";
-        OutOrder x = with(PromisesTest::rich);
+        OutOrder x = with(Tables::rich);
         int[] due = {6, 101, 7, 1, 2, 6, -9};
         for (int what = 0; what < due.length; what++) {
             due("status(" + what + ")", x.status(what), due[what]);
@@ -1210,8 +1063,8 @@ public final class PromisesTest {
         for (int k = 1; k <= 6; k++) {
             due("status(" + (10 + k) + ")", x.status(10 + k), 0);
         }
-        due("status(6), STUCK", with(PromisesTest::stuck).status(6), 1);
-        OutOrder y = with(PromisesTest::two);
+        due("status(6), STUCK", with(Tables::stuck).status(6), 1);
+        OutOrder y = with(Tables::two);
         due("status(7)", y.status(7), 31778);
         y.table(3, 32749);
         y.put(0, 0, -1);
@@ -1223,7 +1076,7 @@ public final class PromisesTest {
     }
 
     private void countRefusals() {
-        OutOrder x = with(PromisesTest::rich);
+        OutOrder x = with(Tables::rich);
         for (int i = 0; i < 6; i++) {
             x.at(-1);
         }
