@@ -38,6 +38,7 @@ abstract class Boundaries {
     void rowIs(OutOrder x, int... unknowns) {
         for (int i = 0; i < unknowns.length; i++) {
             due("at(" + i + ")", x.at(i), unknowns[i]);
+            due("the place of " + unknowns[i], x.column(unknowns[i], 0), i);
         }
         due("at(" + unknowns.length + "), one more", x.at(unknowns.length), -1);
     }

@@ -235,6 +235,13 @@ final class NetBoundaries extends Boundaries {
             due("WIDTH of the row", y.least(1), 1);
             y.table(12, 2);
             due("WIDTH of none JOINED", y.least(1), 0);
+            for (int n = 1; n < 12; n++) {
+                OutOrder z = Tables.with(o -> Tables.fullOf(o, 12, 2));
+                due("WIDTH of 12, all JOINED", z.least(1), 11);
+                z.table(n, 2);
+                due("FILLS of " + n + " after 12", z.least(0), 0);
+                due("WIDTH of " + n + " after 12", z.least(1), 0);
+            }
         });
         sentence("-2 what;", () -> {
             for (int what : new int[] {-1, 2, 3, LOW, HIGH}) {
