@@ -5,23 +5,23 @@ import java.lang.reflect.Method;
 import java.lang.reflect.Modifier;
 import java.nio.file.Files;
 import java.nio.file.Path;
+import java.util.ArrayList;
+import java.util.Arrays;
 import java.util.List;
 import java.util.Set;
 import java.util.TreeSet;
+import java.util.regex.Matcher;
 import java.util.regex.Pattern;
 
 /** The public face of the document, and those rules of LANGUAGE.md that can be seen from outside. */
 public final class FaceTest {
     private static final Path SOURCE = Path.of("src/main/java/OutOrder.java");
+    private static final Path DOCUMENT = Path.of("../shared/DOC.md");
+    private static final String FACE_BEGINS = "public final class OutOrder {";
+    private static final int METHODS = 29;
     private static final int LONGEST_METHOD = 60;
-    private static final String[] FACE = {
-        "int table(int,int)", "int put(int,int,int)", "int number(int,int)", "boolean hold(int,boolean)",
-        "int order(int)", "int swap(int,int)", "int at(int)", "int fills()", "int fill(int)",
-        "int column(int,int)", "int width()", "int group(int)", "boolean isClean()", "int ring()",
-        "int least(int)", "int begin()", "int out(int)", "int going(int,int)", "int back()", "int work()",
-        "int pivot(int)", "int one(int,int)", "int worth()", "int side(int,int)", "int solve(int)",
-        "int inside(int,int)", "int plan(int)", "int round(int,int)", "int status(int)",
-    };
+    private static final int MOST_CLASSES = 12;
+    private static final int MOST_FIELDS = 20;
     private static final String[] FORBIDDEN = {
         "\\bthrow\\b", "\\btry\\b", "\\bcatch\\b", "\\bsynchronized\\b", "\\bassert\\b", "\\bimport\\b",
         "\\bpackage\\b", "->", "::", "\\bThrowable\\b", "Exact\\b", "\\bRandom\\b", "\\bThread\\b",
@@ -29,9 +29,15 @@ public final class FaceTest {
     };
 
     private final Checks checks = new Checks();
+    /** The lines of the document's face, such as "public int at(int i)". */
+    private final List<String> face;
+
+    private FaceTest(List<String> face) {
+        this.face = face;
+    }
 
     public static void main(String[] args) throws IOException {
-        FaceTest test = new FaceTest();
+        FaceTest test = new FaceTest(documentFace());
         test.publicFace();
         test.hiddenMembers(OutOrder.class);
         for (Class<?> inside : OutOrder.class.getDeclaredClasses()) {
@@ -41,8 +47,35 @@ public final class FaceTest {
         test.checks.end();
     }
 
+    private static List<String> documentFace() throws IOException {
+        List<String> lines = Files.readAllLines(DOCUMENT);
+        int begin = lines.indexOf(FACE_BEGINS);
+        List<String> face = new ArrayList<>();
+        for (int i = begin + 1; begin >= 0 && i < lines.size() && !lines.get(i).equals("}"); i++) {
+            face.add(lines.get(i).strip().replace(";", ""));
+        }
+        return face;
+    }
+
+    /** Of "public int put(int u, int w)" the types alone: "int put(int,int)"; of the constructor "". */
+    private static String withoutNames(String line) {
+        Matcher parts = Pattern.compile("public (\\w+ \\w+)\\((.*)\\)").matcher(line);
+        if (!parts.matches()) {
+            return "";
+        }
+        String types = parts.group(2).replaceAll("(\\w+) \\w+", "$1").replace(" ", "");
+        return parts.group(1) + "(" + types + ")";
+    }
+
     private void publicFace() {
-        Set<String> want = new TreeSet<>(List.of(FACE));
+        checks.due("the document's face has the constructor", face.contains("public OutOrder()"), true);
+        checks.due("methods of the document's face", face.size() - 1, METHODS);
+        Set<String> want = new TreeSet<>();
+        for (String line : face) {
+            if (!withoutNames(line).isEmpty()) {
+                want.add(withoutNames(line));
+            }
+        }
         Set<String> got = new TreeSet<>();
         for (Method m : OutOrder.class.getDeclaredMethods()) {
             if (!Modifier.isPrivate(m.getModifiers())) {
@@ -52,6 +85,7 @@ public final class FaceTest {
         }
         checks.due("the public methods " + got + " are those of the document", got.equals(want), true);
         checks.due("the class is public and final", OutOrder.class.getModifiers(), Modifier.PUBLIC | Modifier.FINAL);
+        checks.due("classes are few", OutOrder.class.getDeclaredClasses().length < MOST_CLASSES, true);
         Constructor<?>[] constructors = OutOrder.class.getDeclaredConstructors();
         checks.due("constructors", constructors.length, 1);
         checks.due("the constructor is public", constructors[0].getModifiers(), Modifier.PUBLIC);
@@ -66,8 +100,8 @@ public final class FaceTest {
         return text.append(')').toString();
     }
 
-    private static boolean isPublicName(String name) {
-        for (String line : FACE) {
+    private boolean isPublicName(String name) {
+        for (String line : face) {
             if (line.contains(" " + name + "(")) {
                 return true;
             }
@@ -88,7 +122,8 @@ public final class FaceTest {
             boolean changes = Modifier.isStatic(f.getModifiers()) && !Modifier.isFinal(f.getModifiers());
             checks.due(f + " is static and changes", changes, false);
         }
-        checks.due("fields of " + type + " are few", type.getDeclaredFields().length <= 40, true);
+        long own = Arrays.stream(type.getDeclaredFields()).filter(f -> !Modifier.isStatic(f.getModifiers())).count();
+        checks.due("fields of " + type + " are few", own <= MOST_FIELDS, true);
     }
 
     private void methods(Class<?> type, boolean inside) {
@@ -112,6 +147,9 @@ public final class FaceTest {
     }
 
     private void source(String text) {
+        for (String line : face) {
+            checks.due("the source has, names and all, " + line, text.contains("\n    " + line + " {\n"), true);
+        }
         for (String forbidden : FORBIDDEN) {
             checks.due("the source has " + forbidden, Pattern.compile(forbidden).matcher(text).find(), false);
         }
